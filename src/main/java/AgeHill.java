@@ -229,7 +229,7 @@ public final class AgeHill {
         if (!folk.isFamily(family)) {
             return NONE;
         }
-        hill.takeAges();
+        hill.takeToldAges();
         switch (what) {
             case 0: return folk.size[family];
             case 1: return hill.age[family];
@@ -286,12 +286,12 @@ public final class AgeHill {
         if (i < 0) {
             return NONE;
         }
-        hill.takeAges();
+        hill.takeToldAges();
         return hill.findPair(i);
     }
 
     public int row(int i) {
-        hill.takeAges();
+        hill.takeToldAges();
         hill.lineUp(NONE);
         return i < 0 || i >= hill.inRow ? NONE : hill.who[i];
     }
@@ -409,7 +409,7 @@ public final class AgeHill {
         if (!folk.isFamily(family) || !isHouse(house)) {
             return NONE;
         }
-        hill.takeAges();
+        hill.takeToldAges();
         return wishes.worthOf(family, house);
     }
 
@@ -417,7 +417,7 @@ public final class AgeHill {
         if (what < 0 || what > 1) {
             return NONE;
         }
-        hill.takeAges();
+        hill.takeToldAges();
         if (!wishes.findChange()) {
             return CANNOT;
         }
@@ -454,7 +454,7 @@ public final class AgeHill {
         if (folk.month + n * MONTHS_OF_YEAR > MAX_MONTH) {
             return NONE;
         }
-        return told.hasTwoTops() ? CANNOT : lots.run(seed, n, rule);
+        return told.hasTwoTops() ? CANNOT : lots.passYears(seed, n, rule);
     }
 
     public boolean hold(int slot) {
@@ -610,7 +610,7 @@ public final class AgeHill {
         final int[] at = new int[MAX_TOKENS + 2];
         final int[] nameToken = new int[MAX_HOUSES];
         final int[] waiting = new int[MAX_STACK];
-        int waits;
+        int hanging;
         int length;
         int next;
         int fault;
@@ -942,7 +942,7 @@ public final class AgeHill {
 
         /** Signs wait until what binds more tightly behind them is written. */
         private boolean readExpression() {
-            waits = 0;
+            hanging = 0;
             int brackets = 0;
             boolean wantsUnit = true;
             for (int i = 0; i <= MAX_TOKENS; i++) {
@@ -967,7 +967,7 @@ public final class AgeHill {
                     return true;
                 } else if (token == CLOSE) {
                     writeWaiting(1);
-                    waits--;
+                    hanging--;
                     brackets--;
                 } else {
                     return fail(SYNTAX);
@@ -992,16 +992,16 @@ public final class AgeHill {
         }
 
         private void hang(int sign) {
-            if (waits < MAX_STACK) {
-                waiting[waits] = sign;
-                waits++;
+            if (hanging < MAX_STACK) {
+                waiting[hanging] = sign;
+                hanging++;
             }
         }
 
         private void writeWaiting(int least) {
-            while (waits > 0 && strength(waiting[waits - 1]) >= least) {
-                waits--;
-                fresh.write(SIGN_CODE + waiting[waits]);
+            while (hanging > 0 && strength(waiting[hanging - 1]) >= least) {
+                hanging--;
+                fresh.write(SIGN_CODE + waiting[hanging]);
             }
         }
 
@@ -1022,7 +1022,7 @@ public final class AgeHill {
         }
 
         /** What a formula comes to as a whole; of a rule 1 if it holds, else 0. */
-        int run(int formula) {
+        int evaluate(int formula) {
             int depth = 0;
             dividedByZero = false;
             stack[0] = 0;
@@ -1039,34 +1039,40 @@ public final class AgeHill {
                     }
                 } else if (depth > 1) {
                     depth--;
-                    stack[depth - 1] = combine(operation - SIGN_CODE, stack[depth - 1], stack[depth]);
+                    int sign = operation - SIGN_CODE;
+                    int left = stack[depth - 1];
+                    int right = stack[depth];
+                    stack[depth - 1] = sign <= OVER ? reckon(sign, left, right) : decide(sign, left, right) ? 1 : 0;
                 }
             }
             return dividedByZero ? 0 : stack[0];
         }
 
-        private int combine(int sign, int a, int b) {
-            // A division by zero spoils the one literal that it stands in.
-            boolean spoilt = dividedByZero;
+        private int reckon(int sign, int a, int b) {
             switch (sign) {
                 case PLUS: return a + b;
                 case MINUS: return a - b;
                 case TIMES: return a * b;
-                case OVER:
-                    dividedByZero = spoilt || b == 0;
-                    return b == 0 ? 0 : a / b;
-                case AND: return a & b;
-                case OR: return a | b;
-                default: dividedByZero = false;
+                default: break;
             }
-            if (spoilt) {
+            if (b == 0) {
+                dividedByZero = true;
                 return 0;
             }
+            return a / b;
+        }
+
+        private boolean decide(int sign, int a, int b) {
+            // A division by zero spoils the one literal that it stands in, no other one.
+            boolean spoilt = dividedByZero;
+            dividedByZero = false;
             switch (sign) {
-                case SAME: return a == b ? 1 : 0;
-                case OTHER: return a != b ? 1 : 0;
-                case LESS: return a < b ? 1 : 0;
-                default: return a <= b ? 1 : 0;
+                case AND: return (a & b) != 0;
+                case OR: return (a | b) != 0;
+                case SAME: return !spoilt && a == b;
+                case OTHER: return !spoilt && a != b;
+                case LESS: return !spoilt && a < b;
+                default: return !spoilt && a <= b;
             }
         }
     }
@@ -1263,7 +1269,7 @@ public final class AgeHill {
             this.sums = sums;
         }
 
-        void takeAges() {
+        void takeToldAges() {
             takeAges(text.byMean, false, text.step);
         }
 
@@ -1334,7 +1340,7 @@ public final class AgeHill {
             setFamily(family);
             sums.vars[VAR_GAP] = keyGap;
             for (int r = 0; r < text.rules; r++) {
-                if (sums.run(FIRST_RULE + r) != 0) {
+                if (sums.evaluate(FIRST_RULE + r) != 0) {
                     return true;
                 }
             }
@@ -1356,20 +1362,20 @@ public final class AgeHill {
             sums.vars[VAR_FROM] = from;
             sums.vars[VAR_TO] = house;
             sums.vars[VAR_FAR] = from == NONE ? 0 : Math.abs(from - house);
-            return held(sums.run(COST_FORMULA), MAX_COST);
+            return held(sums.evaluate(COST_FORMULA), MAX_COST);
         }
 
         int dyingWays(int toldAge, int isLame) {
             Arrays.fill(sums.vars, 0);
             sums.vars[VAR_AGE] = toldAge;
             sums.vars[VAR_LAME] = isLame;
-            return held(sums.run(DIES_FORMULA), MAX_DIES);
+            return held(sums.evaluate(DIES_FORMULA), MAX_DIES);
         }
 
         int comingWays(int toldAge) {
             Arrays.fill(sums.vars, 0);
             sums.vars[VAR_AGE] = toldAge;
-            return held(sums.run(COMES_FORMULA), MAX_COMES);
+            return held(sums.evaluate(COMES_FORMULA), MAX_COMES);
         }
     }
 
@@ -1392,7 +1398,7 @@ public final class AgeHill {
 
         /** False if it can't be. */
         boolean solve(int comer) {
-            hill.takeAges();
+            hill.takeToldAges();
             hill.lineUp(comer);
             int slack = hill.text.houses - hill.inRow;
             if (slack < 0 || hill.text.hasTwoTops()) {
@@ -1469,7 +1475,7 @@ public final class AgeHill {
 
         /** Weighs each place in the row by how many ways somebody comes who stands there. */
         void prepare() {
-            hill.takeAges();
+            hill.takeToldAges();
             hill.lineUp(NONE);
             Arrays.fill(weight, 0);
             int place = 0;
@@ -1580,7 +1586,7 @@ public final class AgeHill {
 
         /** False if there are too many. */
         boolean divide() {
-            hill.takeAges();
+            hill.takeToldAges();
             if (!lineUpTops()) {
                 return false;
             }
@@ -1679,7 +1685,7 @@ public final class AgeHill {
         int tryMoves() {
             Folk folk = hill.folk;
             before.copyFrom(folk);
-            hill.takeAges();
+            hill.takeToldAges();
             sortMoves();
             costs = 0;
             int onMorning = 0;
@@ -1741,7 +1747,7 @@ public final class AgeHill {
             hill.sums.vars[VAR_GOOD] = hill.text.good[house];
             hill.sums.vars[VAR_TO] = house;
             hill.sums.vars[VAR_LOVED] = hill.folk.loves[family] == house ? 1 : 0;
-            return held(hill.sums.run(WORTH_FORMULA), MAX_WORTH);
+            return held(hill.sums.evaluate(WORTH_FORMULA), MAX_WORTH);
         }
 
         /** False if no two gain by it. */
@@ -1810,7 +1816,7 @@ public final class AgeHill {
             this.solver = solver;
         }
 
-        int run(int withSeed, int n, int rule) {
+        int passYears(int withSeed, int n, int rule) {
             seed = withSeed;
             moved = 0;
             for (int i = 0; i < n; i++) {
@@ -1835,7 +1841,7 @@ public final class AgeHill {
         }
 
         private boolean isSomethingUnlawful() {
-            hill.takeAges();
+            hill.takeToldAges();
             return hill.findPair(0) != NONE;
         }
 
@@ -1905,7 +1911,7 @@ public final class AgeHill {
         }
 
         private int countUpTo(int comer) {
-            hill.takeAges();
+            hill.takeToldAges();
             int upTo = 0;
             for (int h = 0; h < hill.text.houses; h++) {
                 int family = hill.folk.dweller[h];
@@ -1917,7 +1923,7 @@ public final class AgeHill {
         }
 
         private void doSort(int comer) {
-            hill.takeAges();
+            hill.takeToldAges();
             hill.lineUp(comer);
             if (hill.inRow > hill.text.houses) {
                 sendAway(comer);

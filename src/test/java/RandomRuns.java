@@ -25,7 +25,7 @@ public final class RandomRuns {
 
     public static void main(String[] args) {
         int first = args.length > 0 ? Integer.parseInt(args[0]) : 0;
-        int many = args.length > 1 ? Integer.parseInt(args[1]) : 1500;
+        int many = args.length > 1 ? Integer.parseInt(args[1]) : 1000;
         int wrong = 0;
         long calls = 0;
         for (int run = first; run < first + many && wrong < 5; run++) {
