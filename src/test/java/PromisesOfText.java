@@ -15,6 +15,9 @@ public final class PromisesOfText {
         houses();
         numbers();
         conditions();
+        largest();
+        readAgain();
+        bytesTakenBack();
         CHECK.end();
     }
 
@@ -150,6 +153,14 @@ public final class PromisesOfText {
         fault("forgive if 1<2 or or 1<2;", 1, 18);
         fault("forgive if 1<2 and not;", 1, 22);
         fault("forgive if 1 not <2;", 1, 13);
+        fault("house house a 1;;", 1, 6);
+        fault("house a house a 1;;", 1, 8);
+        fault("step step 1;;", 1, 5);
+        fault("by by mean;;", 1, 3);
+        fault("cost cost=1;;", 1, 5);
+        fault("forgive forgive if 1<2;;", 1, 8);
+        fault("forgive if 1<2 step 1;;", 1, 15);
+        fault("forgive if 1 step 1;;", 1, 13);
         fault("step 5;" + (char) 233, 1, 7);
         fault("step 5;" + (char) 0, 1, 7);
         fault("step" + (char) 11 + "5;", 1, 4);
@@ -311,6 +322,50 @@ public final class PromisesOfText {
         number("to+loved*50", 1);
         number("good", 7);
         number("from+far+gap+3", 3);
+    }
+
+    private static void largest() {
+        // 400 tokens, of which 397 are one formula: 203 less 198 ways, where nobody can be put.
+        AgeHill hill = CHECK.hill("comes=203" + "-1".repeat(198) + ";");
+        CHECK.due("a longest formula", hill.mean(), 24 * 100 * 5);
+        AgeHill worth = CHECK.hill("house a 1;worth=1" + "+1".repeat(196) + ";");
+        worth.come(1, 1, false);
+        CHECK.due("a long formula", worth.worth(0, 0), 197);
+        number("1+2*(1+2*(1+2*(1+2*(1+2*(1+2*(1))))))", 127);
+        condition("1<0 or 1<2 and 5<1 or 1<2 and 1+2*(1+2*(1+2*(1+2*(1+2*(1+2*(1))))))==1+2*(1+2*(1+2*(1+2*(1+2*(1+2))))*1)", true);
+    }
+
+    private static void readAgain() {
+        AgeHill hill = new AgeHill();
+        for (int i = 1; i <= 5; i++) {
+            String text = "house a 1;cost=" + "1+".repeat(60) + i + ";worth=" + i + "+" + "1+".repeat(60) + "0;forgive if 1<2;";
+            CHECK.due("text " + i, CHECK.read(hill, text), 0);
+            hill.come(1, 1, false);
+            CHECK.due("cost of text " + i, hill.least(0, 1), 60 + i);
+            CHECK.due("worth of text " + i, hill.worth(0, 0), 60 + i);
+            CHECK.due("a fault between", CHECK.read(hill, "cost=9;worth=8;dies=7+"), 1);
+            CHECK.due("cost of text " + i, hill.least(0, 1), 60 + i);
+        }
+        CHECK.due("default again", CHECK.read(hill, "house a 5;"), 0);
+        hill.come(1, 1, false);
+        CHECK.due("cost 1", hill.least(0, 1), 1);
+        CHECK.due("worth good", hill.worth(0, 0), 5);
+    }
+
+    /** What was taken back is no part of the text, though it was on the tape. */
+    private static void bytesTakenBack() {
+        AgeHill hill = new AgeHill();
+        // "cost==1;" and blanks; all behind the first '=' goes.
+        hill.feed(0x636f7374, 0x3d3d313b, 0x20202020, 0x20202020, 0x20202020);
+        CHECK.due("back", hill.back(15), 5);
+        CHECK.due("read cost=", hill.read(), 1);
+        CHECK.due("at its end", hill.place(), 5);
+        // "step 12;": the 2 and the sign go, then a sign comes with blanks.
+        hill.feed(0x73746570, 0x2031323b, 0x20202020, 0x20202020, 0x20202020);
+        CHECK.due("back", hill.back(14), 6);
+        CHECK.due("feed", hill.feed(0x3b202020, 0x20202020, 0x20202020, 0x20202020, 0x20202020), 26);
+        CHECK.due("read step 1;", hill.read(), 0);
+        CHECK.due("STEP", hill.count(8), 1);
     }
 
     /** Whether it is forgiven that one of 70, one of two, both lame, lives below one of 30. */
