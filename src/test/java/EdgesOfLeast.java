@@ -40,6 +40,7 @@ public final class EdgesOfLeast {
     private static void least() {
         fewest();
         comerIsNotCounted();
+        eachToOne();
         costs();
         costsHeld();
         costVars();
@@ -59,6 +60,12 @@ public final class EdgesOfLeast {
         }
         CHECK.due("24 upside down", upsideDown(24, 24, "").least(-1, 0), 24);
         CHECK.due("23 upside down", upsideDown(23, 23, "").least(-1, 0), 22);
+        for (int n = 1; n < 24; n++) {
+            AgeHill hill = upsideDown(24, n, "");
+            CHECK.due(n + " upside down in 24", hill.least(-1, 0), n - 1);
+            CHECK.due(n + " upside down in 24, by steps", hill.steps(1), n - 1);
+            CHECK.due(n + " upside down in 24: MEAN", hill.mean() <= 100 * n, true);
+        }
         AgeHill dear = row(Check.houses(3) + "cost=9999*(to/2);", 50, 0, 40, 1);
         CHECK.due("one dear move, not two free ones", dear.least(-1, 0), 1);
         CHECK.due("its COST", dear.least(-1, 1), 9999);
@@ -79,6 +86,27 @@ public final class EdgesOfLeast {
         CHECK.due("24 COSTS", hill.least(young, 1), 24);
         CHECK.due("settle", hill.settle(young), 23);
         CHECK.due("the youngest lives lowest", hill.house(0, 2), young);
+    }
+
+    private static void eachToOne() {
+        CHECK.sentence("all of a ROW are put to HOUSES (each to one, the next one to a higher one; who comes, too)");
+        for (int n : new int[] {1, 2, 12, 22, 23}) {
+            AgeHill hill = upsideDown(24, n, "step 3;cost=9-far;");
+            int comer = hill.come(80, 80, false);
+            int last = -1;
+            for (int i = 0; i < n; i++) {
+                int house = hill.leastAt(-1, hill.row(i));
+                CHECK.due("all anew, one of " + n + " is higher than the one ahead", house > last && house < 24, true);
+                last = house;
+            }
+            hill.settle(comer);
+            CHECK.due("that live", hill.count(3), n + 1);
+            for (int i = 0; i < n; i++) {
+                int here = hill.row(i);
+                CHECK.due("KEYS along the ROW", hill.family(here, 2) <= hill.family(hill.row(i + 1), 2), true);
+                CHECK.due("HOUSES along the ROW", hill.family(here, 3) < hill.family(hill.row(i + 1), 3), true);
+            }
+        }
     }
 
     private static void costs() {
@@ -278,6 +306,17 @@ public final class EdgesOfLeast {
         CHECK.due("steps(1) of none", new AgeHill().steps(1), 0);
         CHECK.due("STEP is as it was", hill.count(8), 7);
         CHECK.due("KEY is as it was", hill.family(0, 2), 5);
+        AgeHill liars = CHECK.hill(Check.houses(2));
+        liars.come(20, 50, false);
+        liars.come(30, 40, false);
+        liars.live(0, 1);
+        liars.live(1, 0);
+        CHECK.due("by told ages", liars.steps(1), 0);
+        liars.live(0, -1);
+        liars.live(1, -1);
+        liars.live(0, 0);
+        liars.live(1, 1);
+        CHECK.due("by told ages", liars.steps(1), 2);
         AgeHill full = upsideDown(24, 24, "");
         CHECK.due("24 by 1", full.steps(1), 24);
         // Eleven with KEY 4 go from 0 .. 10 to 13 .. 23, thirteen with KEY 3 from 11 .. 23 to 0 .. 12.
@@ -469,6 +508,14 @@ public final class EdgesOfLeast {
         AgeHill hill = onTops("l".repeat(24), 13);
         hill.live(5, -1);
         part("12 of 13", hill, 0, 4095);
+        part("12 in 12 on the left", onTops("l".repeat(12) + "r".repeat(12), 12), 0, 4095);
+        part("12 in 12 on the right", onTops("r".repeat(12) + "l".repeat(12), 12), 0, 0);
+        AgeHill high = CHECK.hill(tops("r".repeat(12) + "l".repeat(12)));
+        for (int h = 0; h < 6; h++) {
+            Check.settleIn(high, 30 + h, 6 + h);
+            Check.settleIn(high, 30 + h, 18 + h);
+        }
+        part("the highest 6 on each", high, 0, 0b111111000000);
     }
 
     private static void partByKeys() {
@@ -495,6 +542,7 @@ public final class EdgesOfLeast {
         part("either goes to the right", row(tops("llr"), 50, 0, 40, 1), 1, 1);
         part("either goes to the left", row(tops("rrl"), 50, 0, 40, 1), 1, 1);
         part("the second of three to the left", row(tops("rrrl"), 40, 0, 60, 1, 50, 2), 1, 2);
+        part("the one of four that is not in order", row(tops("rrrrl"), 30, 0, 50, 1, 60, 2, 40, 3), 1, 8);
         part("by HOUSES, not by numbers", row(tops("-lrl"), 50, 3, 40, 2, 30, 1), 0, 5);
         part("by HOUSES, not by numbers", row(tops("rrl"), 40, 2, 30, 1, 20, 0), 0, 4);
     }

@@ -462,6 +462,9 @@ public final class EdgesOfMoves {
             lives *= 100 - (n + 2);
             CHECK.due(n + " YEARS", waiting("age-37").waits(1, n), ways - lives);
         }
+        CHECK.sentence("WAITS of a FAMILY for n YEARS (1 .. 8)");
+        CHECK.due("0 YEARS", waiting("age-37").waits(1, 0), -1);
+        CHECK.due("9 YEARS", waiting("age-37").waits(1, 9), -1);
         CHECK.due("in the second YEAR alone", waiting("(age-40)*100").waits(1, 2), 10000);
         CHECK.due("not in the first", waiting("(age-40)*100").waits(1, 1), 0);
         CHECK.due("in the eighth YEAR alone", waiting("(age-46)*7").waits(1, 8), 7L * 100_000_000_000_000L);
@@ -547,6 +550,15 @@ public final class EdgesOfMoves {
         CHECK.due("in HOUSE 1", hill.marry(1, 0, false), 1);
         CHECK.due("in HOUSE 0", hill.marry(1, 0, true), 2);
         CHECK.due("in HOUSE 2", hill.marry(0, 2, true), 0);
+        AgeHill liars = CHECK.hill(Check.houses(3));
+        liars.come(10, 50, false);
+        liars.come(10, 40, false);
+        liars.come(99, 45, false);
+        for (int f = 0; f < 3; f++) {
+            liars.live(f, f);
+        }
+        CHECK.due("by told ages", liars.marry(0, 1, true), 1);
+        CHECK.due("by told ages", liars.marry(0, 2, true), 0);
         AgeHill two = CHECK.hill(Check.houses(2));
         Check.settleIn(two, 50, 0);
         Check.settleIn(two, 40, 1);

@@ -136,6 +136,15 @@ public final class EdgesOfPeople {
         CHECK.due("its house is empty", hill.house(1, 2), -2);
         CHECK.due("that are", hill.count(2), 5);
         CHECK.due("who is no more does not join", hill.join(0, 4), false);
+        AgeHill lame = familyOf(4);
+        CHECK.due("lame ones of four", lame.family(0, 5), 2);
+        lame.die(1);
+        CHECK.due("a lame one is no more", lame.family(0, 5), 1);
+        lame.join(3, 6);
+        CHECK.due("the other one left", lame.family(0, 5), 0);
+        CHECK.due("he is there", lame.family(6, 5), 1);
+        lame.die(0);
+        CHECK.due("no lame one is left", lame.family(0, 5), 0);
     }
 
     private static void houseIsForOne() {
@@ -168,6 +177,7 @@ public final class EdgesOfPeople {
 
     private static void ages() {
         monthsRest();
+        agesAtThatMonth();
         yearsWithMonths();
         eldestOrMean();
         keys();
@@ -185,6 +195,28 @@ public final class EdgesOfPeople {
             now = at[i];
             CHECK.due("month in MONTH " + now, hill.worth(0, 0), 100 + due[i]);
             CHECK.due("month in MONTH " + now, hill.least(0, 1), due[i]);
+        }
+    }
+
+    private static void agesAtThatMonth() {
+        CHECK.sentence("A PERSON comes with a TRUE age and an age that he TELLS (0 .. 99 YEARS at that MONTH), lame or not");
+        AgeHill hill = new AgeHill();
+        int came = 0;
+        for (int month : new int[] {0, 11, 12, 240, 1199, 1200}) {
+            for (int left = month - hill.count(4); left > 0; left -= 240) {
+                hill.months(Math.min(left, 240));
+            }
+            CHECK.due("of 0 in MONTH " + month, hill.come(0, 99, true), came);
+            CHECK.due("of 99 in MONTH " + month, hill.come(99, 0, false), came + 1);
+            int[][] due = {{0, 99, 1}, {99, 0, 0}};
+            for (int i = 0; i < 2; i++) {
+                for (int what = 0; what < 3; what++) {
+                    CHECK.due("person(" + (came + i) + ", " + what + ") in MONTH " + month, hill.person(came + i, what), due[i][what]);
+                }
+            }
+            CHECK.due("of 100 in MONTH " + month, hill.come(100, 0, false), -1);
+            CHECK.due("of -1 in MONTH " + month, hill.come(0, -1, false), -1);
+            came += 2;
         }
     }
 

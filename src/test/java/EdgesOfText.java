@@ -360,6 +360,8 @@ public final class EdgesOfText {
         twice();
         wrong();
         faultChangesNothing();
+        nothingOfAFaultStays();
+        allToldAtOnce();
         inPlaceOfTheOneAhead();
     }
 
@@ -408,6 +410,8 @@ public final class EdgesOfText {
         good("step 1;" + begun);
         reads("step 1;by mean;" + begun, 2, 15 + 98 * 7 + 5);
         reads("by mean;step 5;" + begun.substring(7) + "step 5;", 2, 15 + 686 + 6);
+        AgeHill longest = CHECK.hill("comes=203" + "-1".repeat(198) + ";");
+        CHECK.due("the longest formula: 5, where nobody can be put", longest.mean(), 24 * 500);
         good("forgive if " + "not ".repeat(394) + "1<2;");
         reads("forgive if " + "not ".repeat(395) + "1<2;", 2, 11 + 1580 + 3);
         good("cost=1" + "+1".repeat(198) + ";");
@@ -465,6 +469,8 @@ public final class EdgesOfText {
         reads("house a 1;house  a 2;house a 3;", 3, 17);
         reads("house a 1;house b 2;house b 3;house a 4;", 3, 26);
         reads("house a left 1;house a right 2;", 3, 21);
+        reads("house a 1;house a2;", 3, 16);
+        reads("house a\t1;house b\n2;house b\r3;house a4;", 3, 26);
         String houses = Check.houses(23);
         reads(houses + "house a 1;", 3, houses.length() + 6);
         reads(houses + "house w 1;", 3, houses.length() + 6);
@@ -509,6 +515,49 @@ public final class EdgesOfText {
         faultyRead("%", 1);
     }
 
+    private static void nothingOfAFaultStays() {
+        CHECK.sentence("A text with a FAULT changes nothing; else it is in place of the one ahead");
+        AgeHill hill = new AgeHill();
+        String[] faulty = {"cost=(((1+2*(3", "worth=9-(8*", "forgive if 1<2 or not (((1", "house a 1;house a 2;", "step 0;lane 0;",
+            "cost=1" + "+1".repeat(250), "comes=9;dies=9;by mean;house b 1;%"};
+        for (int i = 0; i < faulty.length; i++) {
+            CHECK.due("a FAULT", CHECK.read(hill, faulty[i]) > 0, true);
+            String text = "house a " + i + ";worth=" + "1+".repeat(150) + "2*(3-1)-" + i + ";cost=2+3*" + i + ";";
+            CHECK.due("a text behind " + faulty[i], CHECK.read(hill, text), 0);
+            hill.come(50, 50, false);
+            CHECK.due("its WORTH", hill.worth(0, 0), 154 - i);
+            CHECK.due("its COST", hill.least(0, 1), 2 + 3 * i);
+            CHECK.due("its HOUSE", hill.house(0, 1), i);
+            CHECK.due("its RULES", hill.count(10), 0);
+        }
+        for (int i = 0; i < 12; i++) {
+            CHECK.due("six brackets that stay open", CHECK.read(hill, "cost=((((((1+2*"), 1);
+        }
+        CHECK.due("a text", CHECK.read(hill, "house a 1;worth=((((((1+2)*3)+4)*5)+6)*7);"), 0);
+        hill.come(50, 50, false);
+        CHECK.due("its WORTH", hill.worth(0, 0), 497);
+    }
+
+    private static void allToldAtOnce() {
+        CHECK.sentence("('cost' | 'worth' | 'comes' | 'dies') '=' E ';' | 'forgive' 'if' COND ';'.");
+        AgeHill hill = CHECK.hill("forgive if gap==1;comes=2;forgive if gap==2;dies=30;forgive if gap==3;worth=40;"
+            + "forgive if gap==4;cost=50;forgive if gap==5;forgive if gap==6;" + Check.houses(3));
+        Check.settleIn(hill, 20, 0);
+        for (int younger = 0; younger <= 7; younger++) {
+            int other = Check.settleIn(hill, 20 - younger, 1);
+            CHECK.due("by " + younger + " YEARS", hill.unlawful(0), younger == 7 ? 1 : 0);
+            if (younger < 7) {
+                hill.die(other);
+            }
+        }
+        CHECK.due("COST", hill.least(-1, 1), 50);
+        CHECK.due("WORTH", hill.worth(0, 2), 40);
+        hill.love(0, 1);
+        CHECK.due("DIES", hill.waits(0, 1), 30);
+        Check.settleIn(hill, 9, 2);
+        CHECK.due("COMES", hill.mean(), 24 * 200);
+    }
+
     private static void inPlaceOfTheOneAhead() {
         CHECK.sentence("else it is in place of the one ahead: nobody is there then, it is MONTH 0, no MOVES are told, SLOTS hold nothing.");
         for (String text : new String[] {"", "house x 1;house y left 2;", "step 9;", Check.houses(6)}) {
@@ -525,6 +574,7 @@ public final class EdgesOfText {
     private static void vars() {
         wraps();
         towardsZero();
+        literals();
         literalsByZero();
         expressionsByZero();
         othersAreZero();
@@ -578,6 +628,36 @@ public final class EdgesOfText {
         hill.worth(0, 1);
         hill.least(-1, 1);
         CHECK.due("forgive if " + cond, hill.unlawful(0), due ? 0 : 1);
+    }
+
+    private static void literals() {
+        CHECK.sentence("COND: ALL {'or' ALL}. ALL: LIT {'and' LIT}. LIT: 'not' LIT | E ('==' | '!=' | '<' | '<=') E.");
+        String[] signs = {"==", "!=", "<", "<="};
+        boolean[][] due = {{false, true, false}, {true, false, true}, {true, false, false}, {true, true, false}};
+        for (int s = 0; s < signs.length; s++) {
+            for (int left = 4; left <= 6; left++) {
+                boolean holds = due[s][left - 4];
+                rule(left + signs[s] + 5, holds);
+                rule("not " + left + signs[s] + 5, !holds);
+                rule("not not " + left + signs[s] + 5, holds);
+                rule("(0-" + left + ")" + signs[s] + "(0-5)", due[s][6 - left]);
+            }
+        }
+        String[] lits = {"1==2", "1==1"};
+        for (int bits = 0; bits < 8; bits++) {
+            boolean a = (bits & 1) != 0;
+            boolean b = (bits & 2) != 0;
+            boolean c = (bits & 4) != 0;
+            String first = lits[bits & 1];
+            String second = lits[bits >> 1 & 1];
+            String third = lits[bits >> 2];
+            rule(first + " and " + second + " and " + third, a && b && c);
+            rule(first + " or " + second + " or " + third, a || b || c);
+            rule(first + " and " + second + " or " + third, a && b || c);
+            rule(first + " or " + second + " and " + third, a || b && c);
+            rule("not " + first + " and " + second + " or not " + third, !a && b || !c);
+            rule("not " + first + " or " + second + " and not " + third, !a || b && !c);
+        }
     }
 
     private static void literalsByZero() {

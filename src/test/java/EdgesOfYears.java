@@ -16,6 +16,7 @@ public final class EdgesOfYears {
         late();
         canNotBePut();
         howManyMoved();
+        fortyYears();
         yearsAsked();
         slots();
         counted();
@@ -444,6 +445,24 @@ public final class EdgesOfYears {
         return hill;
     }
 
+    private static void fortyYears() {
+        CHECK.sentence("YEARS by LOTS of a SEED, n (1 .. 40) by a rule");
+        for (int rule = 0; rule < 4; rule++) {
+            CHECK.due("0 YEARS", new AgeHill().years(5, 0, rule), -1);
+            CHECK.due("41 YEARS", new AgeHill().years(5, 41, rule), -1);
+            for (int n : new int[] {1, 40}) {
+                AgeHill hill = CHECK.hill(Check.houses(24));
+                hill.years(5, n, rule);
+                int came = 0;
+                for (int year = 0; year < n; year++) {
+                    came += comes(5, year) ? 1 : 0;
+                }
+                CHECK.due("who came in " + n + " YEARS", hill.count(12), came);
+                CHECK.due("MONTH after " + n + " YEARS", hill.count(4), 12 * n);
+            }
+        }
+    }
+
     private static void yearsAsked() {
         CHECK.sentence("YEARS by LOTS: how many moved; -2, and nothing happens: there are two tops; NONE, and nothing happens: "
             + "no such n, rule, MONTH above 1200.");
@@ -488,6 +507,8 @@ public final class EdgesOfYears {
         held();
         notHeld();
         restored();
+        whoCameSinceIsNot();
+        numbersUsedAgain();
         notRestored();
     }
 
@@ -499,7 +520,12 @@ public final class EdgesOfYears {
         hill.live(6, 0);
         hill.love(0, 3);
         hill.love(6, 3);
+        hill.come(7, 8, true);
+        hill.join(7, 1);
         hill.months(17);
+        hill.forget();
+        hill.move(5, 1, 3);
+        hill.move(9, 0, 0);
         hill.move(1, 0, 2);
         hill.move(4, 6, 2);
     }
@@ -574,8 +600,62 @@ public final class EdgesOfYears {
         CHECK.due("the one: MOVES", both.count(5), 0);
         both.restore(1);
         CHECK.due("the other one: MONTH", both.count(4), 31);
-        CHECK.due("the other one: PEOPLE that came", both.count(12), 7);
+        CHECK.due("the other one: PEOPLE that came", both.count(12), 8);
         CHECK.due("the other one: MOVES", both.count(5), 4);
+    }
+
+    private static void whoCameSinceIsNot() {
+        CHECK.sentence("All goes on from what a SLOT holds");
+        AgeHill hill = row(3, "by mean;", 60, 0, 40, 1, 45, 2);
+        hill.hold(0);
+        hill.come(5, 5, true);
+        hill.join(3, 1);
+        CHECK.due("a mean of 35", hill.marry(0, 1, true), 0);
+        hill.restore(0);
+        CHECK.due("a mean of 50", hill.marry(0, 1, true), 1);
+        CHECK.due("how many there are", hill.family(1, 0), 1);
+        CHECK.due("how many are lame", hill.family(1, 5), 0);
+        CHECK.due("he is not", hill.person(3, 0), -1);
+        CHECK.due("nor does he die", hill.die(3), false);
+        CHECK.due("nor does he join", hill.join(3, 0), false);
+        CHECK.due("nor is his FAMILY", hill.family(3, 0), -1);
+        CHECK.due("nor does it move", hill.move(0, 3, 0), -1);
+    }
+
+    private static void numbersUsedAgain() {
+        CHECK.sentence("All goes on from what a SLOT holds");
+        AgeHill hill = CHECK.hill(Check.houses(3));
+        hill.hold(0);
+        hill.months(6);
+        hill.come(61, 55, true);
+        hill.live(0, 1);
+        hill.love(0, 2);
+        hill.move(7, 0, 2);
+        hill.hold(1);
+        hill.restore(0);
+        hill.come(3, 4, false);
+        hill.come(5, 6, false);
+        int[] fresh = {3, 4, 0, 0};
+        int[] freshFamily = {1, 4, 4, -2, -2, 0};
+        for (int what = 0; what < 6; what++) {
+            CHECK.due("who comes anew: family(0, " + what + ")", hill.family(0, what), freshFamily[what]);
+            CHECK.due("who comes anew: person(0, " + what + ")", hill.person(0, what), what < 4 ? fresh[what] : -1);
+        }
+        hill.live(1, 1);
+        hill.move(8, 1, 0);
+        hill.restore(1);
+        hill.months(11);
+        int[] due = {61, 55, 1, 0};
+        for (int what = 0; what < 4; what++) {
+            CHECK.due("11 MONTHS on: person(0, " + what + ")", hill.person(0, what), due[what]);
+        }
+        hill.months(1);
+        CHECK.due("12 MONTHS on", hill.person(0, 0), 62);
+        CHECK.due("the one that it LOVES", hill.family(0, 4), 2);
+        CHECK.due("lame ones", hill.family(0, 5), 1);
+        homes("taken up again", hill, -2, 0, -2);
+        CHECK.due("its MOVE", hill.done(), 1);
+        homes("made", hill, -2, -2, 0);
     }
 
     private static void notRestored() {

@@ -109,7 +109,7 @@ public final class RandomRuns {
 
     private String goodText() {
         StringBuilder text = new StringBuilder();
-        int houses = oneOf(8) ? 22 + below(3) : below(9);
+        int houses = oneOf(12) ? 22 + below(3) : oneOf(6) ? below(25) : below(9);
         boolean tops = oneOf(4);
         for (int h = 0; h < houses; h++) {
             String side = !tops ? oneOf(20) ? "left " : "" : new String[] {"", "left ", "right "}[below(3)];
@@ -213,15 +213,15 @@ public final class RandomRuns {
         same("back(" + all + ")", hill.back(all), model.back(all));
     }
 
-    /** People and homes enough that something happens, few enough that the model ends. */
+    /** People and homes enough that something happens. */
     private void fill() {
         int houses = model.count(0);
-        int wanted = houses <= 9 ? below(houses + 1) : oneOf(2) ? below(3) : houses - below(2);
+        int wanted = oneOf(5) ? houses - below(2) : below(houses + 1);
         boolean sorted = oneOf(3);
         for (int i = 0; i < wanted && wrong == 0; i++) {
             callCome();
             int f = model.count(13) - 1;
-            int h = sorted && houses <= 9 ? i : below(Math.max(1, houses));
+            int h = sorted ? i : below(Math.max(1, houses));
             for (int t = 0; t < houses && model.house(h, 2) != -2; t++) {
                 h = (h + 1) % houses;
             }
@@ -233,12 +233,6 @@ public final class RandomRuns {
                 callJoin();
             }
         }
-    }
-
-    private boolean isHeavy() {
-        int n = model.count(3);
-        int h = model.count(0);
-        return h > 10 && n > 2 && n < h - 1;
     }
 
     // ---- calls ----
@@ -327,9 +321,6 @@ public final class RandomRuns {
     }
 
     private void plan() {
-        if (isHeavy()) {
-            return;
-        }
         int comes = oneOf(3) ? -1 : homeless();
         int w = what(2);
         int s = what(20);
@@ -344,45 +335,29 @@ public final class RandomRuns {
 
     private void weigh() {
         int w = what(1);
-        int n = model.count(3);
         int f = family();
         int g = family();
         boolean second = oneOf(2);
-        boolean few = model.count(0) <= 9;
         switch (below(6)) {
-            case 0 -> {
-                if (!isHeavy()) {
-                    same("mean()", hill.mean(), model.mean());
-                }
-            }
+            case 0 -> same("mean()", hill.mean(), model.mean());
             case 1 -> {
-                if (few && oneOf(2)) {
+                if (oneOf(2)) {
                     same("where(" + second + ")", hill.where(second), model.where(second));
                 }
             }
             case 2 -> {
-                if (few && oneOf(2)) {
+                if (oneOf(2)) {
                     same("gap()", hill.gap(), model.gap());
                 }
             }
-            case 3, 4 -> {
-                if (few || n > 22 || n < 3) {
-                    same("part(" + w + ")", hill.part(w), model.part(w));
-                }
-            }
-            default -> {
-                if (!isHeavy()) {
-                    same("marry(" + f + ", " + g + ", " + second + ")", hill.marry(f, g, second), model.marry(f, g, second));
-                }
-            }
+            case 3, 4 -> same("part(" + w + ")", hill.part(w), model.part(w));
+            default -> same("marry(" + f + ", " + g + ", " + second + ")", hill.marry(f, g, second), model.marry(f, g, second));
         }
     }
 
     private void moves() {
         if (oneOf(3)) {
-            if (!isHeavy()) {
-                same("settle(-1)", hill.settle(-1), model.settle(-1));
-            }
+            same("settle(-1)", hill.settle(-1), model.settle(-1));
         }
         int many = oneOf(20) ? 41 : below(5);
         for (int i = 0; i < many; i++) {
@@ -423,11 +398,9 @@ public final class RandomRuns {
             case 1 -> same("hold(" + slot + ")", hill.hold(slot), model.hold(slot));
             case 2 -> same("restore(" + slot + ")", hill.restore(slot), model.restore(slot));
             default -> {
-                if (model.count(0) <= 9 && (model.count(2) < 20 || model.count(0) <= 6)) {
-                    same("years(" + seed + ", " + many + ", " + rule + ")",
-                        hill.years(seed, many, rule), model.years(seed, many, rule));
-                    checkHomes();
-                }
+                same("years(" + seed + ", " + many + ", " + rule + ")",
+                    hill.years(seed, many, rule), model.years(seed, many, rule));
+                checkHomes();
             }
         }
     }

@@ -127,7 +127,8 @@ final class Check {
         hill.months(14);
         hill.hold(0);
         hill.live(1, 1);
-        hill.move(3, 0, 4);
+        // The first one told goes, a morning later, to where the other one goes away from.
+        hill.move(3, 0, 0);
         hill.move(2, 3, 3);
         // "step 7;house zz 4;  "
         hill.feed(0x73746570, 0x20373b68, 0x6f757365, 0x207a7a20, 0x343b2020);

@@ -6,7 +6,8 @@ import java.util.Set;
 import java.util.TreeSet;
 
 /**
- * The document done over in the plainest way that can be thought of, by trying everything out.
+ * The document done over in the plainest way that can be thought of, by trying everything out (on large
+ * hills, where that would not end, by a table).
  * It is slow, shares no code with AgeHill and is there to be compared with it.
  */
 final class Model {
@@ -622,6 +623,14 @@ final class Model {
         return held(script.cost, 9999, v);
     }
 
+    private static final long ONE_MOVE = 1_000_000_000L;
+    private boolean costsMatter = true;
+
+    /** Whether trying everything out would not end in time: then a table of the best for the rest is kept. */
+    static boolean isLarge(int many, int places) {
+        return places > 9 && many > 2 && many < places - 1;
+    }
+
     final class Plan {
         final List<Integer> row;
         int[] at;
@@ -630,9 +639,43 @@ final class Model {
 
         Plan(int comer) {
             row = theRow(comer);
-            if (!twoTops()) {
+            if (twoTops() || row.size() > houses()) {
+                return;
+            }
+            if (isLarge(row.size(), houses())) {
+                putByTable();
+            } else {
                 put(new int[row.size()], 0, 0, 0, 0);
             }
+        }
+
+        /** What the i-th of the row must pay in a house, a move far more than all costs. */
+        long price(int i, int h) {
+            int from = world.families.get(row.get(i)).house;
+            if (from == h) {
+                return 0;
+            }
+            return (from == NONE ? 0 : ONE_MOVE) + (costsMatter ? cost(row.get(i), from, h) : 0);
+        }
+
+        void putByTable() {
+            long[][] least = new long[row.size() + 1][houses() + 1];
+            for (int i = row.size() - 1; i >= 0; i--) {
+                least[i][houses()] = Long.MAX_VALUE / 4;
+                for (int h = houses() - 1; h >= 0; h--) {
+                    least[i][h] = Math.min(least[i][h + 1], price(i, h) + least[i + 1][h + 1]);
+                }
+            }
+            at = new int[row.size()];
+            int h = 0;
+            for (int i = 0; i < row.size(); i++, h++) {
+                while (price(i, h) + least[i + 1][h + 1] > least[i][h]) {
+                    h++;
+                }
+                at[i] = h;
+            }
+            moved = (int) (least[0][0] / ONE_MOVE);
+            costs = (int) (least[0][0] % ONE_MOVE);
         }
 
         void put(int[] houses, int i, int lowest, int movedYet, int costYet) {
@@ -729,7 +772,9 @@ final class Model {
             p.family = world.families.size();
             world.families.add(new Family());
             world.people.add(p);
+            costsMatter = false;
             Plan plan = new Plan(p.family);
+            costsMatter = true;
             sum += ways * (plan.can() ? plan.moved : 24);
         }
         world = kept;
@@ -788,12 +833,27 @@ final class Model {
         if (i == row.size()) {
             return 0;
         }
+        if (i == 0 && isLarge(row.size(), houses.size())) {
+            return mostStayingByTable(row, houses);
+        }
         int most = Integer.MIN_VALUE / 2;
         for (int h = lowest; h <= houses.size() - (row.size() - i); h++) {
             int stays = world.families.get(row.get(i)).house == houses.get(h) ? 1 : 0;
             most = Math.max(most, stays + mostStaying(row, i + 1, houses, h + 1));
         }
         return most;
+    }
+
+    int mostStayingByTable(List<Integer> row, List<Integer> houses) {
+        int[][] most = new int[row.size() + 1][houses.size() + 1];
+        for (int i = row.size() - 1; i >= 0; i--) {
+            most[i][houses.size()] = Integer.MIN_VALUE / 2;
+            for (int h = houses.size() - 1; h >= 0; h--) {
+                int stays = world.families.get(row.get(i)).house == houses.get(h) ? 1 : 0;
+                most[i][h] = Math.max(most[i][h + 1], stays + most[i + 1][h + 1]);
+            }
+        }
+        return most[0][0];
     }
 
     int part(int what) {

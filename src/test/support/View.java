@@ -3,7 +3,7 @@ import java.util.List;
 
 /**
  * All that can be seen of a hill by calls, a line each. The last of these calls change it, so that what
- * lies behind is seen too: moves told, what slots hold, what is on the tape. Some 300 calls on a small hill.
+ * lies behind is seen too: moves told, what slots hold, what is on the tape. Some 260 calls at most.
  */
 final class View {
     private static final int[] NO_NUMBERS = {};
@@ -42,9 +42,9 @@ final class View {
 
     /** All numbers below n; of many just the first and the last ones, as a hill is good for 512 calls. */
     private static int[] numbersBelow(int n) {
-        int[] numbers = new int[Math.min(n, 8)];
+        int[] numbers = new int[Math.min(n, 6)];
         for (int i = 0; i < numbers.length; i++) {
-            numbers[i] = i < 6 ? i : n - numbers.length + i;
+            numbers[i] = i < 4 ? i : n - numbers.length + i;
         }
         return numbers;
     }
